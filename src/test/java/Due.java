@@ -1,0 +1,30 @@
+/** Counts the answers that are not as due, and prints each of them. */
+final class Due {
+    private static final int MOST_PRINTED = 40;
+    private static int asked = 0;
+    private static int wrong = 0;
+
+    private Due() {
+    }
+
+    static void due(String call, long got, long want) {
+        asked++;
+        if (got != want) {
+            wrong++;
+            if (wrong <= MOST_PRINTED) {
+                System.out.println(call + " answered " + got + ", due is " + want);
+            }
+        }
+    }
+
+    static int wrongSoFar() {
+        return wrong;
+    }
+
+    static void finish(String test) {
+        System.out.println(test + ": " + asked + " answers, " + wrong + " not as due");
+        if (wrong != 0 || asked == 0) {
+            System.exit(1);
+        }
+    }
+}
