@@ -385,15 +385,15 @@ public final class SquareTiler {
         if (findCause() != 0) {
             return false;
         }
-        flow.solve(net);
-        flow.placeFaces(net, faceMap);
+        flow.solve(net, faceMap);
         return true;
     }
 
     private boolean layOut() {
-        if (!letFlow()) {
+        if (findCause() != 0) {
             return false;
         }
+        flow.solve(net, faceMap);
         laying.build(net, faceMap, flow);
         return true;
     }
@@ -501,7 +501,7 @@ public final class SquareTiler {
 
         int spotInTurn(int k, int w) {
             for (int i = 0; i < turnSize[k]; i++) {
-                if (wireInTurn(k, i) == w) {
+                if (turns[k * MOST_WIRES + i] == w) {
                     return i;
                 }
             }
@@ -687,7 +687,7 @@ public final class SquareTiler {
         int high = 0;
         long treeCount = 0;
 
-        void solve(Net net) {
+        void solve(Net net, FaceMap map) {
             if (!net.isWire(net.power)) {
                 return;
             }
@@ -696,6 +696,7 @@ public final class SquareTiler {
             takeHeights(net.knots);
             takeCurrents(net);
             high = heightOf[net.first[net.power]];
+            placeFaces(net, map);
         }
 
         /**
@@ -784,7 +785,7 @@ public final class SquareTiler {
         }
 
         /** Each round places a face at least, for without the battery the faces still hang together. */
-        void placeFaces(Net net, FaceMap map) {
+        private void placeFaces(Net net, FaceMap map) {
             for (int f = 0; f < map.howMany; f++) {
                 isPlaced[f] = false;
             }

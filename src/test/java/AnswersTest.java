@@ -264,6 +264,34 @@ public final class AnswersTest {
         }
         due("within(9) of the nine", x.within(9), -1);
         idleWire();
+        theLargestPerfect();
+    }
+
+    /** The simple perfect square of 21 squares, 112 by 112: no net may have more wires than this one. */
+    private static void theLargestPerfect() {
+        int[][] rows = {{0, 62, 50}, {50, 77, 35}, {85, 85, 27}, {85, 77, 8}, {93, 66, 19}, {50, 62, 15},
+            {65, 60, 17}, {82, 66, 11}, {82, 60, 6}, {88, 42, 24}, {0, 33, 29}, {29, 37, 25}, {54, 53, 9}, {63, 60, 2},
+            {63, 53, 7}, {70, 42, 18}, {54, 37, 16}, {70, 0, 42}, {29, 33, 4}, {33, 0, 37}, {0, 0, 33}};
+        SquareTiler x = new SquareTiler();
+        for (int[] s : rows) {
+            x.tell(s[0], s[1], s[2]);
+        }
+        due("fit(112, 112)", x.fit(112, 112), 0);
+        due("read(112, 112)", x.read(112, 112), 11);
+        dueRectangle(x, 112, 112, 21, 1, 1);
+        for (int w = 0; w < rows.length; w++) {
+            for (int what = 0; what < 3; what++) {
+                due("square(" + w + ", " + what + ") of 21", x.square(w, what), rows[w][what]);
+            }
+        }
+        due("about() of 21 would have 13", x.about(), NO);
+        for (int i = 0; i < rows.length; i++) {
+            x.alter(i, 0, rows[i][1]);
+            x.alter(i, 1, rows[i][0]);
+        }
+        due("fit(112, 112) turned over", x.fit(112, 112), 0);
+        due("read(112, 112) turned over would have 13", x.read(112, 112), NO);
+        due("read: unchanged", x.count(0), 11);
     }
 
     /** A wire at a loose end has the current 0: it is no square, and nothing is perfect with it. */
