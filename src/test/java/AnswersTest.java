@@ -21,6 +21,7 @@ public final class AnswersTest {
         at();
         refusedWhenNotReady();
         count();
+        theFullNet();
         Due.finish("AnswersTest");
     }
 
@@ -132,8 +133,15 @@ public final class AnswersTest {
         y.bare(1);
         Nets.layRow(y, 1, 0, 2, 3);
         due("faces() of a net that is not plane", y.faces(), 2);
+        due("face(2) before all else", freshRing().face(2), 1);
         due("faces() of 22 wires", Nets.bundle(22).faces(), 22);
         due("face(43) of 22 wires", Nets.bundle(22).face(43), 0);
+    }
+
+    private static SquareTiler freshRing() {
+        SquareTiler x = Nets.bundle(2);
+        x.battery(-1);
+        return x;
     }
 
     private static void trees() {
@@ -224,10 +232,30 @@ public final class AnswersTest {
         due("place(4)", x.place(4), NO);
         due("place(-1)", x.place(-1), NO);
         due("place(max)", x.place(MAX), NO);
+        placeAgainstTheWires();
         SquareTiler y = cutBridge();
         int[] uneven = {0, 0, 3, 1};
         for (int f = 0; f < 4; f++) {
             due("uneven place(" + f + ")", y.place(f), uneven[f]);
+        }
+    }
+
+    /** Three wires go upwards from the lower pole: each has the current -1, and its place falls to its left. */
+    private static void placeAgainstTheWires() {
+        SquareTiler x = new SquareTiler();
+        x.knot();
+        x.knot();
+        for (int w = 0; w < 4; w++) {
+            x.wire(w == 3 ? 0 : 1, w == 3 ? 1 : 0);
+        }
+        x.battery(3);
+        Nets.layRow(x, 0, 0, 1, 2, 3);
+        Nets.layRow(x, 1, 3, 2, 1, 0);
+        for (int w = 0; w < 3; w++) {
+            due("upwards: current(" + w + ")", x.current(w), -1);
+            due("upwards: square(" + w + ", 0)", x.square(w, 0), w);
+            due("upwards: right place", x.place(x.face(2 * w)), w + 1);
+            due("upwards: left place", x.place(x.face(2 * w + 1)), w);
         }
     }
 
@@ -308,6 +336,35 @@ public final class AnswersTest {
         SquareTiler y = Nets.bundle(3);
         y.cut(1, true);
         dueRectangle(y, 1, 1, 1, 1, 1);
+        SquareTiler z = Nets.bridge();
+        due("perfect with an idle wire", z.rectangle(3), 0);
+        z.cut(0, true);
+        z.cut(2, true);
+        z.cut(4, true);
+        due("not ready", z.rectangle(3), NO);
+        z.cut(2, false);
+        dueRectangle(z, 1, 3, 3, 0, 0);
+        changedSinceAsked();
+    }
+
+    /** An answer is of the net as it stands, not as it was when last asked. */
+    private static void changedSinceAsked() {
+        SquareTiler x = Nets.bundle(2);
+        x.knot();
+        x.wire(2, 1);
+        x.lay(2, 2);
+        x.lay(1, 2);
+        due("perfect with a loose end", x.rectangle(3), 0);
+        x.clear();
+        Nets.tellPerfect(x);
+        x.read(33, 32);
+        due("perfect since", x.rectangle(3), 1);
+        SquareTiler y = Nets.bundle(4);
+        due("within(0) of three", y.within(0), 0);
+        due("simple: three", y.rectangle(4), 0);
+        y.cut(1, true);
+        due("within(0) of two", y.within(0), -1);
+        due("simple: two", y.rectangle(4), 1);
     }
 
     private static void square() {
@@ -373,6 +430,29 @@ public final class AnswersTest {
         x.tell(2, 1, 2);
         x.read(4, 3);
         dueWithin(x, 1, 2);
+        withinFarTies();
+    }
+
+    private static SquareTiler readOf(int wide, int high, int[][] rows) {
+        SquareTiler x = new SquareTiler();
+        for (int[] s : rows) {
+            x.tell(s[0], s[1], s[2]);
+        }
+        due("read(" + wide + ", " + high + ") is ready", x.read(wide, high) == NO ? 1 : x.cause(), 0);
+        return x;
+    }
+
+    private static void withinFarTies() {
+        // The lesser LEFT counts although it stands far above the other pair.
+        dueWithin(readOf(3, 6, new int[][] {{2, 0, 1}, {2, 1, 1}, {0, 0, 2}, {0, 2, 3}, {0, 5, 1}, {1, 5, 1},
+            {2, 5, 1}}), 4, 5);
+        // The lesser LOW counts although it is told last and stands far to the right.
+        dueWithin(readOf(4, 3, new int[][] {{3, 1, 1}, {3, 2, 1}, {3, 0, 1}, {0, 0, 3}}), 0, 2);
+        // The less wide one counts, be it told first or last.
+        dueWithin(readOf(2, 2, new int[][] {{0, 0, 1}, {1, 0, 1}, {0, 1, 1}, {1, 1, 1}}), 0, 2);
+        dueWithin(readOf(2, 2, new int[][] {{0, 0, 1}, {0, 1, 1}, {1, 0, 1}, {1, 1, 1}}), 0, 1);
+        // Fewer squares count before all else: three at the left, two at the right.
+        dueWithin(readOf(8, 6, new int[][] {{0, 0, 4}, {0, 4, 2}, {2, 4, 2}, {4, 2, 4}, {4, 0, 2}, {6, 0, 2}}), 1, 2);
     }
 
     private static void at() {
@@ -406,6 +486,61 @@ public final class AnswersTest {
         due("within(-1) not ready", x.within(-1), NO);
         due("at(0, 0) not ready", x.at(0, 0), NO);
         due("at(-1, 0) not ready", x.at(-1, 0), NO);
+    }
+
+    /**
+     * Twelve knots in a chain, ten times two wires between them and once one, the battery wire 0: all rows are full.
+     * Wires 2 k - 1 and 2 k go from knot k - 1 to knot k.
+     */
+    private static SquareTiler fullNet() {
+        SquareTiler x = new SquareTiler();
+        for (int k = 0; k < 12; k++) {
+            x.knot();
+        }
+        x.wire(0, 11);
+        for (int w = 1; w < 22; w++) {
+            x.wire((w - 1) / 2, (w - 1) / 2 + 1);
+        }
+        x.battery(0);
+        Nets.layRow(x, 0, 0, 1, 2);
+        for (int k = 1; k < 10; k++) {
+            Nets.layRow(x, k, 2 * k + 1, 2 * k + 2, 2 * k, 2 * k - 1);
+        }
+        Nets.layRow(x, 10, 21, 20, 19);
+        Nets.layRow(x, 11, 21, 0);
+        return x;
+    }
+
+    private static void theFullNet() {
+        SquareTiler x = fullNet();
+        due("full: cause()", x.cause(), 0);
+        due("full: faces()", x.faces(), 12);
+        due("full: trees()", x.trees(), 1024);
+        dueRectangle(x, 2, 12, 21, 0, 0);
+        for (int w = 1; w < 22; w++) {
+            due("full: left " + w, x.square(w, 0), w < 21 ? 1 - w % 2 : 0);
+            due("full: low " + w, x.square(w, 1), w < 21 ? 11 - (w - 1) / 2 : 0);
+            due("full: side " + w, x.square(w, 2), w < 21 ? 1 : 2);
+        }
+        dueWithin(x, 17, 19);
+        due("full: at(1, 1)", x.at(1, 1), 21);
+        due("full: at(1, 11)", x.at(1, 11), 2);
+        due("full: grant()", x.grant(), 22);
+        due("full: judge()", x.judge(), 0);
+        x.claim(21, 1);
+        due("full: judge() of the last wire", x.judge(), 1021);
+        x.raise(10, 1);
+        due("full: judge() above it", x.judge(), 1019);
+        due("full: keep()", x.keep(), 22);
+        due("full: mirror()", x.mirror(), 12);
+        due("full: mirrored left", x.square(1, 0), 1);
+        due("full: back()", x.back(), 22);
+        due("full: left again", x.square(1, 0), 0);
+        due("full: about()", x.about(), 12);
+        dueRectangle(x, 12, 2, 21, 0, 0);
+        // TREES of the two nets are as WIDE and HIGH: 1024 to these is 2 to 12.
+        due("full: trees() turned about", x.trees(), 6144);
+        due("full: claims are 0", x.claim(21, 0), 0);
     }
 
     private static void count() {

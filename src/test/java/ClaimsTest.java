@@ -125,6 +125,14 @@ public final class ClaimsTest {
         y.claim(1, 1);
         y.claim(2, 1);
         due("judge() of knot 2", y.judge(), 2002);
+        SquareTiler z = Nets.chain(4);
+        z.battery(2);
+        z.grant();
+        due("judge() with knot 0 between", z.judge(), 0);
+        z.raise(0, 9);
+        z.claim(0, 8);
+        z.claim(1, 6);
+        due("judge() of knot 0", z.judge(), 2000);
     }
 
     private static void raiseAll(SquareTiler x, int... heights) {
@@ -162,6 +170,16 @@ public final class ClaimsTest {
         raiseAll(y, 35, 7, 14, 0);
         claimAll(y, 0, 21, -7, 7, 14, 0);
         due("judge() seven times as large", y.judge(), 5000);
+        SquareTiler one = Nets.bundle(2);
+        raiseAll(one, 1, 0);
+        claimAll(one, 1, 0);
+        due("judge() of a single square", one.judge(), 0);
+        raiseAll(one, 2, 0);
+        claimAll(one, 2, 0);
+        due("judge() of a single square, doubled", one.judge(), 5000);
+        raiseAll(one, MOST, 0);
+        claimAll(one, MOST, 0);
+        due("judge() of a single square, at the most", one.judge(), 5000);
     }
 
     /** What flows out of knot 1 is 2 to the 32nd together, which an int would take for 0. */

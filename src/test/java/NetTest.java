@@ -259,6 +259,9 @@ public final class NetTest {
         due("about() with a cut wire", y.about(), NO);
         due("about: claims unchanged", y.claim(0, 4), 4);
         y.cut(2, false);
+        y.cut(0, true);
+        due("about() with the first wire cut", y.about(), NO);
+        y.cut(0, false);
         y.battery(-1);
         due("about() without a battery", y.about(), NO);
         SquareTiler z = Nets.bundle(2);
@@ -270,6 +273,19 @@ public final class NetTest {
         due("about: ready", z.cause(), 0);
         due("about() with a face on both sides", z.about(), NO);
         due("about: unchanged", z.count(0), 3);
+        SquareTiler loose = new SquareTiler();
+        loose.knot();
+        loose.knot();
+        loose.knot();
+        loose.wire(0, 1);
+        loose.wire(1, 2);
+        loose.wire(1, 2);
+        Nets.layRow(loose, 0, 0);
+        Nets.layRow(loose, 1, 0, 1, 2);
+        Nets.layRow(loose, 2, 2, 1);
+        loose.battery(2);
+        due("about: ready", loose.cause(), 0);
+        due("about() with a face on both sides of wire 0", loose.about(), NO);
     }
 
     private static void clear() {
@@ -311,8 +327,17 @@ public final class NetTest {
         dueTurn(x, 0, 5, 0, 1);
         dueTurn(x, 3, 4, 3, 5);
         x.clear();
+        for (int k = 0; k < 12; k++) {
+            x.knot();
+        }
+        for (int w = 0; w < 6; w++) {
+            x.wire(11 - w, w);
+        }
         due("back() once more", x.back(), 6);
         due("back: judge()", x.judge(), 0);
+        dueEnds(x, 0, 0, 1);
+        dueEnds(x, 3, 1, 3);
+        dueEnds(x, 5, 0, 3);
         SquareTiler y = new SquareTiler();
         due("keep() of an empty net", y.keep(), 0);
         y.knot();
