@@ -17,6 +17,18 @@ final class Due {
         }
     }
 
+    static void dueTurn(SquareTiler x, int k, int... wires) {
+        for (int i = 0; i < wires.length; i++) {
+            due("turn(" + k + ", " + i + ")", x.turn(k, i), wires[i]);
+        }
+        due("turn(" + k + ") has no more", x.turn(k, wires.length), -1);
+    }
+
+    static void dueEnds(SquareTiler x, int w, int a, int b) {
+        due("of(" + w + ", 0)", x.of(w, 0), a);
+        due("of(" + w + ", 1)", x.of(w, 1), b);
+    }
+
     static int wrongSoFar() {
         return wrong;
     }

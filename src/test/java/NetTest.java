@@ -183,13 +183,13 @@ public final class NetTest {
         x.bare(3);
         Nets.layRow(x, 3, 4, 3);
         due("mirror()", x.mirror(), 4);
-        dueTurn(x, 0, 1, 0, 5);
-        dueTurn(x, 1, 3, 0, 2);
-        dueTurn(x, 2, 4, 2, 1);
-        dueTurn(x, 3, 3, 4);
+        Due.dueTurn(x, 0, 1, 0, 5);
+        Due.dueTurn(x, 1, 3, 0, 2);
+        Due.dueTurn(x, 2, 4, 2, 1);
+        Due.dueTurn(x, 3, 3, 4);
         due("mirror() again", x.mirror(), 4);
-        dueTurn(x, 0, 5, 0, 1);
-        dueTurn(x, 3, 4, 3);
+        Due.dueTurn(x, 0, 5, 0, 1);
+        Due.dueTurn(x, 3, 4, 3);
         SquareTiler y = Nets.bridge();
         y.cut(0, true);
         due("mirror: before, left of wire 4", y.square(4, 0), 1);
@@ -199,18 +199,6 @@ public final class NetTest {
         due("mirror: low of wire 2", y.square(2, 1), 1);
     }
 
-    private static void dueTurn(SquareTiler x, int k, int... wires) {
-        for (int i = 0; i < wires.length; i++) {
-            due("turn(" + k + ", " + i + ")", x.turn(k, i), wires[i]);
-        }
-        due("turn(" + k + ") has no more", x.turn(k, wires.length), -1);
-    }
-
-    private static void dueEnds(SquareTiler x, int w, int a, int b) {
-        due("of(" + w + ", 0)", x.of(w, 0), a);
-        due("of(" + w + ", 1)", x.of(w, 1), b);
-    }
-
     private static void about() {
         SquareTiler x = Nets.bridge();
         x.grant();
@@ -218,16 +206,16 @@ public final class NetTest {
         due("about: count(0)", x.count(0), 4);
         due("about: count(1)", x.count(1), 6);
         due("about: count(3)", x.count(3), 5);
-        dueEnds(x, 0, 0, 1);
-        dueEnds(x, 1, 1, 2);
-        dueEnds(x, 2, 3, 1);
-        dueEnds(x, 3, 0, 3);
-        dueEnds(x, 4, 3, 2);
-        dueEnds(x, 5, 2, 0);
-        dueTurn(x, 0, 0, 5, 3);
-        dueTurn(x, 1, 0, 2, 1);
-        dueTurn(x, 2, 1, 4, 5);
-        dueTurn(x, 3, 2, 3, 4);
+        Due.dueEnds(x, 0, 0, 1);
+        Due.dueEnds(x, 1, 1, 2);
+        Due.dueEnds(x, 2, 3, 1);
+        Due.dueEnds(x, 3, 0, 3);
+        Due.dueEnds(x, 4, 3, 2);
+        Due.dueEnds(x, 5, 2, 0);
+        Due.dueTurn(x, 0, 0, 5, 3);
+        Due.dueTurn(x, 1, 0, 2, 1);
+        Due.dueTurn(x, 2, 1, 4, 5);
+        Due.dueTurn(x, 3, 2, 3, 4);
         for (int w = 0; w < 6; w++) {
             due("about: claim", x.claim(w, 0), 0);
         }
@@ -324,8 +312,8 @@ public final class NetTest {
         due("back: claim", x.claim(0, 1), 1);
         due("back: raise", x.raise(0, 2), 2);
         due("back: judge()", x.judge(), 0);
-        dueTurn(x, 0, 5, 0, 1);
-        dueTurn(x, 3, 4, 3, 5);
+        Due.dueTurn(x, 0, 5, 0, 1);
+        Due.dueTurn(x, 3, 4, 3, 5);
         x.clear();
         for (int k = 0; k < 12; k++) {
             x.knot();
@@ -335,9 +323,9 @@ public final class NetTest {
         }
         due("back() once more", x.back(), 6);
         due("back: judge()", x.judge(), 0);
-        dueEnds(x, 0, 0, 1);
-        dueEnds(x, 3, 1, 3);
-        dueEnds(x, 5, 0, 3);
+        Due.dueEnds(x, 0, 0, 1);
+        Due.dueEnds(x, 3, 1, 3);
+        Due.dueEnds(x, 5, 0, 3);
         SquareTiler y = new SquareTiler();
         due("keep() of an empty net", y.keep(), 0);
         y.knot();

@@ -181,19 +181,6 @@ public final class ToldTest {
         due("fit(65536, 131072)", x.fit(65536, 131072), 3);
     }
 
-    private static void dueEnds(SquareTiler x, int w, int a, int b) {
-        due("of(" + w + ", 0)", x.of(w, 0), a);
-        due("of(" + w + ", 1)", x.of(w, 1), b);
-        due("of(" + w + ", 2)", x.of(w, 2), w == x.count(3) ? 2 : 0);
-    }
-
-    private static void dueTurn(SquareTiler x, int k, int... wires) {
-        for (int i = 0; i < wires.length; i++) {
-            due("turn(" + k + ", " + i + ")", x.turn(k, i), wires[i]);
-        }
-        due("turn(" + k + ") has no more", x.turn(k, wires.length), -1);
-    }
-
     private static void read() {
         SquareTiler x = Nets.bridge();
         x.cut(0, true);
@@ -206,18 +193,19 @@ public final class ToldTest {
         due("read: battery", x.count(3), 9);
         int[][] ends = {{0, 2}, {0, 1}, {1, 3}, {1, 4}, {2, 5}, {2, 3}, {3, 5}, {3, 4}, {4, 5}, {0, 5}};
         for (int w = 0; w < 10; w++) {
-            dueEnds(x, w, ends[w][0], ends[w][1]);
+            Due.dueEnds(x, w, ends[w][0], ends[w][1]);
+            due("read: kind", x.of(w, 2), w == 9 ? 2 : 0);
             due("read: claim", x.claim(w, 0), 0);
         }
         for (int k = 0; k < 6; k++) {
             due("read: raise", x.raise(k, 0), 0);
         }
-        dueTurn(x, 0, 0, 1, 9);
-        dueTurn(x, 1, 2, 3, 1);
-        dueTurn(x, 2, 4, 5, 0);
-        dueTurn(x, 3, 6, 7, 2, 5);
-        dueTurn(x, 4, 8, 3, 7);
-        dueTurn(x, 5, 9, 8, 6, 4);
+        Due.dueTurn(x, 0, 0, 1, 9);
+        Due.dueTurn(x, 1, 2, 3, 1);
+        Due.dueTurn(x, 2, 4, 5, 0);
+        Due.dueTurn(x, 3, 6, 7, 2, 5);
+        Due.dueTurn(x, 4, 8, 3, 7);
+        Due.dueTurn(x, 5, 9, 8, 6, 4);
         due("read: cause()", x.cause(), 0);
         x.copy();
         dueTold(x, 7, 24, 9, 1);
@@ -228,16 +216,16 @@ public final class ToldTest {
     private static void readLines() {
         SquareTiler x = four();
         due("read(2, 2) with a cross", x.read(2, 2), 3);
-        dueTurn(x, 0, 2, 3, 4);
-        dueTurn(x, 1, 0, 1, 3, 2);
-        dueTurn(x, 2, 4, 1, 0);
+        Due.dueTurn(x, 0, 2, 3, 4);
+        Due.dueTurn(x, 1, 0, 1, 3, 2);
+        Due.dueTurn(x, 2, 4, 1, 0);
         x.hush();
         x.tell(0, 0, 1);
         due("read(1, 1)", x.read(1, 1), 2);
-        dueEnds(x, 0, 0, 1);
-        dueEnds(x, 1, 0, 1);
-        dueTurn(x, 0, 0, 1);
-        dueTurn(x, 1, 1, 0);
+        Due.dueEnds(x, 0, 0, 1);
+        Due.dueEnds(x, 1, 0, 1);
+        Due.dueTurn(x, 0, 0, 1);
+        Due.dueTurn(x, 1, 1, 0);
         x.hush();
         // Two pairs of small squares, with a large one between them: the lines at 1 stand apart.
         x.tell(3, 0, 1);
@@ -246,15 +234,15 @@ public final class ToldTest {
         x.tell(0, 1, 1);
         x.tell(0, 0, 1);
         due("read(4, 2) with lines apart", x.read(4, 2), 4);
-        dueEnds(x, 0, 2, 3);
-        dueEnds(x, 1, 0, 2);
-        dueEnds(x, 2, 0, 3);
-        dueEnds(x, 3, 0, 1);
-        dueEnds(x, 4, 1, 3);
-        dueTurn(x, 0, 3, 2, 1, 5);
-        dueTurn(x, 1, 4, 3);
-        dueTurn(x, 2, 0, 1);
-        dueTurn(x, 3, 5, 0, 2, 4);
+        Due.dueEnds(x, 0, 2, 3);
+        Due.dueEnds(x, 1, 0, 2);
+        Due.dueEnds(x, 2, 0, 3);
+        Due.dueEnds(x, 3, 0, 1);
+        Due.dueEnds(x, 4, 1, 3);
+        Due.dueTurn(x, 0, 3, 2, 1, 5);
+        Due.dueTurn(x, 1, 4, 3);
+        Due.dueTurn(x, 2, 0, 1);
+        Due.dueTurn(x, 3, 5, 0, 2, 4);
     }
 
     private static void readRefused() {
