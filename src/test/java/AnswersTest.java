@@ -488,31 +488,8 @@ public final class AnswersTest {
         due("at(-1, 0) not ready", x.at(-1, 0), NO);
     }
 
-    /**
-     * Twelve knots in a chain, ten times two wires between them and once one, the battery wire 0: all rows are full.
-     * Wires 2 k - 1 and 2 k go from knot k - 1 to knot k.
-     */
-    private static SquareTiler fullNet() {
-        SquareTiler x = new SquareTiler();
-        for (int k = 0; k < 12; k++) {
-            x.knot();
-        }
-        x.wire(0, 11);
-        for (int w = 1; w < 22; w++) {
-            x.wire((w - 1) / 2, (w - 1) / 2 + 1);
-        }
-        x.battery(0);
-        Nets.layRow(x, 0, 0, 1, 2);
-        for (int k = 1; k < 10; k++) {
-            Nets.layRow(x, k, 2 * k + 1, 2 * k + 2, 2 * k, 2 * k - 1);
-        }
-        Nets.layRow(x, 10, 21, 20, 19);
-        Nets.layRow(x, 11, 21, 0);
-        return x;
-    }
-
     private static void theFullNet() {
-        SquareTiler x = fullNet();
+        SquareTiler x = Nets.full();
         due("full: cause()", x.cause(), 0);
         due("full: faces()", x.faces(), 12);
         due("full: trees()", x.trees(), 1024);

@@ -17,6 +17,16 @@ final class Due {
         }
     }
 
+    static void dueText(String what, String got, String want) {
+        asked++;
+        if (!got.equals(want)) {
+            wrong++;
+            if (wrong <= MOST_PRINTED) {
+                System.out.println(what + " " + got + ", due is " + want);
+            }
+        }
+    }
+
     static void dueTurn(SquareTiler x, int k, int... wires) {
         for (int i = 0; i < wires.length; i++) {
             due("turn(" + k + ", " + i + ")", x.turn(k, i), wires[i]);
