@@ -71,9 +71,20 @@ public final class FaceTest {
         for (Field f : SquareTiler.class.getDeclaredFields()) {
             boolean isOpen = !Modifier.isPrivate(f.getModifiers());
             due(f + " is private but for NO", isOpen == f.getName().equals("NO"));
-            due(f + " is final if it is static",
-                    !Modifier.isStatic(f.getModifiers()) || Modifier.isFinal(f.getModifiers()));
+            theField(f);
         }
+        Due.due("NO", SquareTiler.NO, -2000000000);
+    }
+
+    private static void theField(Field f) {
+        Class<?> type = f.getType();
+        if (Modifier.isStatic(f.getModifiers())) {
+            due(f + " is a constant", Modifier.isFinal(f.getModifiers()) && type.isPrimitive());
+            return;
+        }
+        boolean isRow = type.isArray() && type.getComponentType().isPrimitive();
+        boolean isOwn = type.getName().startsWith("SquareTiler$");
+        due(f + " is a number, a row of numbers or of a class inside", type.isPrimitive() || isRow || isOwn);
     }
 
     private static void theNestedClasses() {
@@ -83,6 +94,9 @@ public final class FaceTest {
             due(c + " is static", Modifier.isStatic(c.getModifiers()));
             due(c + " is not open", !Modifier.isPublic(c.getModifiers()) && !Modifier.isProtected(c.getModifiers()));
             due(c + " has some twenty fields at most", c.getDeclaredFields().length <= 20);
+            for (Field f : c.getDeclaredFields()) {
+                theField(f);
+            }
         }
     }
 
